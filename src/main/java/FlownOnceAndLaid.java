@@ -810,7 +810,7 @@ public final class FlownOnceAndLaid {
         }
     }
 
-    /** A text that was read: of each of its three parts the steps that work it out, operands ahead of what joins them. */
+    /** A text that was read: of each part the steps that work it out, operands ahead of what joins them. */
     private static final class Text {
         // A step is one of these in its lowest four bits, and above them what it pushes or names.
         private static final int PUSH = 0, NAME = 1;
