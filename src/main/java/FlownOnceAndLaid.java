@@ -281,8 +281,11 @@ public final class FlownOnceAndLaid {
         if (!isBelow(on, CELLS) || !isBelow(n, MOST_ROW + 1) || !explore(oneWays, carpet)) {
             return NO;
         }
+        int start = oneWays.start();
         Arrays.fill(rowsNow, 0L);
-        rowsNow[oneWays.start()] = 1;
+        if (isBelow(start, rowsNow.length)) {
+            rowsNow[start] = 1;
+        }
         for (int i = 0; i < n; i++) {
             Arrays.fill(rowsNext, 0L);
             oneWays.spread(rowsNow, rowsNext);
@@ -1349,6 +1352,9 @@ public final class FlownOnceAndLaid {
         }
 
         private void leave(Thought thought, int from) {
+            if (!isBelow(from, CELLS)) {
+                return;
+            }
             boolean moves = false;
             for (int word = 0; word < WORDS; word++) {
                 int goal = thought.goal(from, word);

@@ -50,9 +50,7 @@ public final class LanguageTest {
         TreeSet<String> known = new TreeSet<>(List.of(LIBRARY.split(" ")));
         Matcher uses = Pattern.compile("\\b(Arrays|System|Math|Integer|Long|String)\\.\\w+").matcher(source);
         while (uses.find()) {
-            if (!uses.group().equals("util.Arrays")) {
-                Due.is("library: " + uses.group(), known.contains(uses.group()) ? 1 : 0, 1);
-            }
+            Due.is("library: " + uses.group(), known.contains(uses.group()) ? 1 : 0, 1);
         }
     }
 
