@@ -123,7 +123,29 @@ public final class FloorTest {
         Due.is("set(3, 0, 35)", x.set(3, 0, 35), 3);
         Due.is("set(3, 0, 0)", x.set(3, 0, 0), 35);
         Due.is("told(0, 3)", x.told(0, 3), 0);
-        Due.is("to be laid is not to fly", x.told(0, 4), 0);
+    }
+
+    private static void toBeLaidIsNotToFly() {
+        FlownOnceAndLaid x = new FlownOnceAndLaid();
+        x.carpet(RUNNER, 2, 3);
+        x.set(3, 0, 1);
+        Due.is("told(0, 4)", x.told(0, 4), 0);
+        Due.is("count(2)", x.count(2), 0);
+    }
+
+    private static void setChangesOneOfItsNumbersAlone() {
+        for (int what = 2; what <= 4; what++) {
+            FlownOnceAndLaid x = new FlownOnceAndLaid();
+            x.carpet(PERSIAN, 2, 3);
+            x.set(what, 0, 1);
+            int[] due = {0, 0, 2, 3, 0, PERSIAN};
+            due[what] = 1;
+            for (int of = 2; of <= 5; of++) {
+                Due.is("behind set(" + what + ", 0, 1): told(0, " + of + ")", x.told(0, of), due[of]);
+            }
+            Due.is("the night", x.told(0, 0), 0);
+            Due.is("no walls", x.count(1), 0);
+        }
     }
 
     private static void setAnswersWhetherItHadFlown() {
@@ -456,6 +478,20 @@ public final class FloorTest {
                 int south = Math.abs(cell / 6 - own / 6);
                 x.set(3, 1, cell);
                 Due.is("one on " + cell + " is near to " + own, x.told(0, 6), east + south <= 1 ? 1 : 0);
+            }
+        }
+    }
+
+    private static void anyOtherMayBeNear() {
+        for (int own = 0; own < 4; own++) {
+            for (int other = 0; other < 4; other++) {
+                FlownOnceAndLaid x = Due.by("easts 0; souths 0; rises 0;");
+                int[] apart = {0, 5, 30, 35};
+                for (int cell : apart) {
+                    x.carpet(RUG, 0, cell);
+                }
+                x.set(3, other, apart[own]);
+                Due.is(other + " is near to " + own, x.told(own, 6), other == own ? 0 : 1);
             }
         }
     }

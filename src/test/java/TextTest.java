@@ -1,6 +1,7 @@
 /** Promises 6 to 8: the tape, the texts, the rule. */
 public final class TextTest {
     private static final String REST = "; souths 0; rises 0;";
+    private static final String KEYS_AND_NAMES = "easts souths rises or and not word number column row night flown";
     private static final String FIRST_TEXT = "easts 1 - word ; souths word - 2 ; rises 1 ;";
 
     public static void main(String[] args) throws IllegalAccessException {
@@ -61,6 +62,16 @@ public final class TextTest {
         Due.is("count(4)", x.count(4), 0);
         Due.is("count(3)", x.count(3), 1);
         Due.is("the next begins anew", Due.text(x, FIRST_TEXT), 1);
+    }
+
+    private static void whatStoodOnTheTapeIsNotReadAgain() {
+        FlownOnceAndLaid x = new FlownOnceAndLaid();
+        Due.is("a fault", Due.text(x, "easts 1234; $"), -112);
+        Due.is("no key is made of what was there", Due.text(x, "east"), -100);
+        Due.is("a fault", Due.text(x, "easts 1234; $"), -112);
+        Due.is("no number either", Due.text(x, "easts 12"), -108);
+        Due.is("a fault", Due.text(x, FIRST_TEXT + "$"), -100 - FIRST_TEXT.length());
+        Due.is("no end either", Due.text(x, FIRST_TEXT.substring(0, FIRST_TEXT.length() - 1)), -99 - FIRST_TEXT.length());
     }
 
     private static void aTextMayFillTheTape() {
@@ -129,6 +140,25 @@ public final class TextTest {
         fault("eastsouths 1" + REST, 0);
         fault("easts 1 orword" + REST, 8);
         good("easts 1 or word" + REST);
+    }
+
+    private static void aAndZAreLetters() {
+        fault("easts wordz" + REST, 6);
+        fault("easts worda" + REST, 6);
+        fault("easts zword" + REST, 6);
+        fault("easts aword" + REST, 6);
+    }
+
+    private static void everyLetterOfAWordCounts() {
+        String[] words = KEYS_AND_NAMES.split(" ");
+        for (String word : words) {
+            for (int i = 0; i < word.length(); i++) {
+                String other = word.substring(0, i) + (word.charAt(i) == 'q' ? 'x' : 'q') + word.substring(i + 1);
+                fault("easts 1 " + other + " 1" + REST, 8);
+                fault("easts " + other + REST, 6);
+                fault(other + " 1" + REST, 0);
+            }
+        }
     }
 
     private static void numbersAreAsLongAsCanBe() {
@@ -296,6 +326,17 @@ public final class TextTest {
         fault("easts (1;)", 8);
     }
 
+    private static void whatJoinsNeedsWhatItJoins() {
+        String[] joiners = {"1 or", "1 and", "not", "1 <", "1 =", "1 +", "1 -", "1 *", "-", "("};
+        for (String joiner : joiners) {
+            fault("easts " + joiner + ";", 6 + joiner.length());
+            fault("easts (" + joiner + ")" + REST, 7 + joiner.length());
+            fault("easts " + joiner, 6 + joiner.length());
+            fault("easts " + joiner + " or 1;", 7 + joiner.length());
+            fault("easts " + joiner + "*1;", 6 + joiner.length());
+        }
+    }
+
     private static void oneComparisonToASum() {
         fault("easts 1 < 2 < 3;", 12);
         fault("easts 1 = 2 < 3;", 12);
@@ -377,7 +418,9 @@ public final class TextTest {
     // ---- promises 7 and 8: what a text is worth
 
     private static void value(String e, int due) {
-        Due.is(e, Due.oneBy("easts 0; souths 0; rises " + e + ";", 0, 3, 16).told(0, 6), due);
+        Due.is("rises " + e, Due.oneBy("easts 0; souths 0; rises " + e + ";", 0, 3, 16).told(0, 6), Math.max(0, due));
+        FlownOnceAndLaid x = Due.oneBy("easts " + e + "; souths 0; rises 0;", 0, 3, 16);
+        Due.is("easts " + e, x.asks(0, 16, 0, 0), Math.max(-5, Math.min(5, due)));
     }
 
     private static void numbersSumsAndTerms() {
@@ -392,6 +435,9 @@ public final class TextTest {
         value("-3*-2", 6);
         value("- - 3", 3);
         value("-2+9", 7);
+        value("2-9", -7);
+        value("-3", -3);
+        value("2*-2", -4);
         value("9--2", 11);
     }
 

@@ -116,6 +116,29 @@ public final class ToldTest {
         tells(y, 2, 5);
     }
 
+    private static void sureIsOfToldPlacesAlone() {
+        // One word would lead from the last told cell to 0, but 0 is not told.
+        FlownOnceAndLaid x = Due.rugs(0);
+        Due.fill(x, 0, 0, 1);
+        tells(x, 2, 1);
+        // One word would lie still on 0, but that is not told.
+        FlownOnceAndLaid y = Due.oneBy("easts 0<word; souths 0; rises 0;", 0, 0, 0);
+        Due.fill(y, 0, 0, 1);
+        tells(y, 2, 0);
+    }
+
+    private static void thereIsNoWordAbove7() {
+        FlownOnceAndLaid x = Due.oneBy("easts 7<word; souths 0; rises 0;", 0, 0, 0);
+        Due.fill(x, 0, 0, 1);
+        tells(x, 0, 0);
+        tells(x, 1, 0);
+        tells(x, 2, 0);
+        Due.is("how many", x.ways(0, 0, 0), 0);
+        Due.is("from its own cell alone", x.ways(0, 0, 1), 2);
+        Due.fill(x, 0, 0, 0);
+        Due.is("8 words lie still", x.ways(0, 0, 0), 8);
+    }
+
     private static FlownOnceAndLaid asRug3() {
         FlownOnceAndLaid x = Due.oneBy("easts 1; souths number = 4; rises 0;", 0, 3, 0);
         Due.text(x, "easts 0; souths 1; rises 0;");
@@ -236,6 +259,8 @@ public final class ToldTest {
         Due.is("to 35", x.ways(0, 0, 1), 1L << 35 | 1L << 34 | 1L << 29);
         Due.fill(x, 0, 2, 0);
         Due.is("to 0", x.ways(0, 0, 1), 1 + 2 + 64);
+        Due.fill(x, 0, 2, 30);
+        Due.is("to 30, not from beyond the floor", x.ways(0, 0, 1), 1L << 30 | 1L << 24 | 1L << 31);
     }
 
     // ---- promises 19 and 20

@@ -65,6 +65,14 @@ public final class WaysTest {
         shortest(x, 2, 4, 3114);
     }
 
+    private static void thereIsNoWordAbove7() {
+        FlownOnceAndLaid x = Due.oneBy("easts 7<word; souths 0; rises 0;", 0, 0, 0);
+        shortest(x, 1, Due.NONE, Due.NONE);
+        there(x, 1, 1);
+        Due.is("all words are idle", x.furthest(0, 2), 255);
+        Due.is("8 words lie still", x.rows(0, 0, 1), 8);
+    }
+
     private static void offAWallAndNotBack() {
         FlownOnceAndLaid x = Due.rugs(1);
         x.set(1, 1, 1);
@@ -141,6 +149,15 @@ public final class WaysTest {
         there(Due.oneBy("easts 1; souths 1; rises 0;", 0, 0, 3), 1L << 3 | 1L << 10 | 1L << 17, 1L << 17);
     }
 
+    private static void sinksAreSoughtAnew() {
+        FlownOnceAndLaid x = Due.rugs(0);
+        x.set(1, 1, 1);
+        x.set(1, 6, 1);
+        there(x, 1, 1);
+        x.set(1, 1, 0);
+        there(x, ALL & ~64, 0);
+    }
+
     private static void severalSinks() {
         FlownOnceAndLaid x = Due.oneBy("easts (column=2)*(1-2*(word<3)); souths 0; rises 0;", 0, 0, 2);
         there(x, 2 + 4 + 8, 2 + 8);
@@ -175,6 +192,18 @@ public final class WaysTest {
     private static void theFurthestOfOneThatLiesIsItsOwn() {
         furthest(Due.oneBy("easts 1; souths 1; rises 0;", 0, 0, 35), 35, 0);
         furthest(Due.oneBy("easts 1; souths 1; rises 0;", 0, 0, 5), 5, 0);
+    }
+
+    private static void anyCellMayBeTheFurthest() {
+        for (int cell = 1; cell < 36; cell++) {
+            FlownOnceAndLaid x = Due.oneBy(ROW_BY_ROW, 0, 0, 0);
+            if (cell < 35) {
+                x.set(1, cell + 1, 1);
+            }
+            furthest(x, cell, cell);
+        }
+        FlownOnceAndLaid y = Due.oneBy("easts 0-1; souths 0; rises 0;", 0, 0, 3);
+        furthest(y, 0, 3);
     }
 
     private static void idleWordsMoveItFromNone() {
