@@ -44,7 +44,9 @@ public final class FlownOnceAndLaid {
         for (int i = 0; i < FIRST_TEXT.length(); i++) {
             reader.put(FIRST_TEXT.charAt(i));
         }
-        texts[0] = reader.read();
+        if (reader.reads()) {
+            texts[0] = reader.made();
+        }
         textCount = 1;
         reader.clear();
     }
@@ -168,16 +170,16 @@ public final class FlownOnceAndLaid {
     }
 
     public int text() {
-        if (textCount >= texts.length) {
-            return FULL;
-        }
-        Text read = reader.read();
-        int place = reader.place();
-        reader.clear();
-        if (read == null) {
+        if (!reader.reads()) {
+            int place = reader.place();
+            reader.clear();
             return FAULT_BASE - place;
         }
-        texts[textCount] = read;
+        if (!isBelow(textCount, texts.length)) {
+            return FULL;
+        }
+        texts[textCount] = reader.made();
+        reader.clear();
         textCount++;
         return textCount - 1;
     }
@@ -850,6 +852,8 @@ public final class FlownOnceAndLaid {
         // Each step comes of a token of its own, so there are never more steps than bytes.
         private final int[] steps = new int[TAPE_SIZE];
         private int stepCount = 0;
+        private int eastsEnd = 0;
+        private int southsEnd = 0;
 
         private int put(int letter) {
             if (!isBelow(size, tape.length)) {
@@ -864,25 +868,28 @@ public final class FlownOnceAndLaid {
             size = 0;
         }
 
-        private Text read() {
+        /** Whether the tape is a text. */
+        private boolean reads() {
             findTokens();
             at = 0;
             stepCount = 0;
             if (!readPart(EASTS)) {
-                return null;
+                return false;
             }
-            int eastsEnd = stepCount;
+            eastsEnd = stepCount;
             if (!readPart(SOUTHS)) {
-                return null;
+                return false;
             }
-            int southsEnd = stepCount;
-            if (!readPart(RISES) || token() != END) {
-                return null;
-            }
+            southsEnd = stepCount;
+            return readPart(RISES) && token() == END;
+        }
+
+        /** The text that reads() found; apart from it, so that a text that has no room is not made. */
+        private Text made() {
             return new Text(stepsOf(0, eastsEnd), stepsOf(eastsEnd, southsEnd), stepsOf(southsEnd, stepCount));
         }
 
-        /** The place of the token at hand: behind a read() that answered null, of the fault. */
+        /** The place of the token at hand: behind a reads() that found no text, of the fault. */
         private int place() {
             return isBelow(at, tokenCount) ? places[at] : size;
         }

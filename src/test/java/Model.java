@@ -427,17 +427,18 @@ final class Model {
     }
 
     int text() {
-        if (texts.size() == 6) {
-            return FULL;
-        }
-        String s = tape.toString();
-        tape.setLength(0);
         try {
-            texts.add(new Text(s));
-            return texts.size() - 1;
+            Text read = new Text(tape.toString());
+            if (texts.size() == 6) {
+                return FULL;
+            }
+            texts.add(read);
         } catch (Fault f) {
+            tape.setLength(0);
             return -100 - f.place;
         }
+        tape.setLength(0);
+        return texts.size() - 1;
     }
 
     int force(int text) {

@@ -4,18 +4,6 @@ public final class ReadingsTest {
         Each.of(ReadingsTest.class);
     }
 
-    private static void sixTextsAreFullAlsoForATapeWithAFault() {
-        String[] tapes = {"", "(", "easts 1 $"};
-        for (String tape : tapes) {
-            FlownOnceAndLaid x = new FlownOnceAndLaid();
-            for (int i = 1; i <= 5; i++) {
-                Due.is("text " + i, Due.text(x, "easts 0;souths 0;rises 0;"), i);
-            }
-            Due.is("text() of " + tape, Due.text(x, tape), Due.FULL);
-            Due.is("the tape stays", x.count(4), tape.length());
-        }
-    }
-
     private static void aLongFlightThatCannotBeHasNoRow() {
         FlownOnceAndLaid x = Due.rugs(0);
         for (int wrong = 0; wrong < 20; wrong++) {

@@ -120,6 +120,22 @@ public final class TextTest {
         Due.is("and goes on", x.feed(32), 26);
     }
 
+    private static void aFaultIsNamedAheadOfFull() {
+        String[] tapes = {"", " ", "(", "easts 1 $", "easts 0;souths 0;rises 0"};
+        int[] places = {0, 1, 0, 8, 24};
+        for (int k = 0; k < tapes.length; k++) {
+            FlownOnceAndLaid x = new FlownOnceAndLaid();
+            for (int i = 1; i <= 5; i++) {
+                Due.is("text " + i, Due.text(x, "easts 0;souths 0;rises 0;"), i);
+            }
+            Due.is("six texts, and " + tapes[k], Due.text(x, tapes[k]), -100 - places[k]);
+            Due.is("the tape is empty then", x.count(4), 0);
+            Due.is("no text more", x.count(3), 6);
+            Due.is("a seventh", Due.text(x, "easts 0;souths 0;rises 0;"), Due.FULL);
+            Due.is("the tape stays then", x.count(4), 25);
+        }
+    }
+
     // ---- promise 7: tokens
 
     private static void fault(String text, int place) {
