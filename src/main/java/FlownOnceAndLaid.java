@@ -170,13 +170,13 @@ public final class FlownOnceAndLaid {
     }
 
     public int text() {
+        if (!isBelow(textCount, texts.length)) {
+            return FULL;
+        }
         if (!reader.reads()) {
             int place = reader.place();
             reader.clear();
             return FAULT_BASE - place;
-        }
-        if (!isBelow(textCount, texts.length)) {
-            return FULL;
         }
         texts[textCount] = reader.made();
         reader.clear();

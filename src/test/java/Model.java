@@ -427,12 +427,11 @@ final class Model {
     }
 
     int text() {
+        if (texts.size() == 6) {
+            return FULL;
+        }
         try {
-            Text read = new Text(tape.toString());
-            if (texts.size() == 6) {
-                return FULL;
-            }
-            texts.add(read);
+            texts.add(new Text(tape.toString()));
         } catch (Fault f) {
             tape.setLength(0);
             return -100 - f.place;

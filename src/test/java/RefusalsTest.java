@@ -216,17 +216,19 @@ public final class RefusalsTest {
     }
 
     private static void textIsFullBehindSixAndTheTapeStays() {
-        Consumer<FlownOnceAndLaid> told = x -> {
-            makeSixTexts(x);
-            Due.feed(x, SHORT_TEXT);
-        };
-        Twins.refuse("text(), a seventh", FULL, told, FlownOnceAndLaid::text);
-        FlownOnceAndLaid x = new FlownOnceAndLaid();
-        told.accept(x);
-        for (int i = 0; i < 3; i++) {
-            Due.is("text(), a seventh", x.text(), FULL);
-            Due.is("the tape stays", x.count(4), SHORT_TEXT.length());
-            Due.is("no text more", x.count(3), 6);
+        for (String tape : new String[] {"", SHORT_TEXT, SHORT_TEXT + "$", "(", " "}) {
+            Consumer<FlownOnceAndLaid> told = x -> {
+                makeSixTexts(x);
+                Due.feed(x, tape);
+            };
+            Twins.refuse("text(), a seventh, of " + tape, FULL, told, FlownOnceAndLaid::text);
+            FlownOnceAndLaid x = new FlownOnceAndLaid();
+            told.accept(x);
+            for (int i = 0; i < 3; i++) {
+                Due.is("text(), a seventh, of " + tape, x.text(), FULL);
+                Due.is("the tape stays", x.count(4), tape.length());
+                Due.is("no text more", x.count(3), 6);
+            }
         }
     }
 

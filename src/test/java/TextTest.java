@@ -110,30 +110,65 @@ public final class TextTest {
     }
 
     private static void sixTextsAtMost() {
-        FlownOnceAndLaid x = new FlownOnceAndLaid();
-        for (int i = 1; i <= 5; i++) {
-            Due.is("text " + i, Due.text(x, "easts 0;souths 0;rises 0;"), i);
-        }
+        FlownOnceAndLaid x = withTexts(5);
         Due.is("a seventh", Due.text(x, "easts 0;souths 0;rises 9;"), Due.FULL);
         Due.is("count(3)", x.count(3), 6);
         Due.is("the tape stays", x.count(4), 25);
         Due.is("and goes on", x.feed(32), 26);
     }
 
-    private static void aFaultIsNamedAheadOfFull() {
-        String[] tapes = {"", " ", "(", "easts 1 $", "easts 0;souths 0;rises 0"};
-        int[] places = {0, 1, 0, 8, 24};
-        for (int k = 0; k < tapes.length; k++) {
-            FlownOnceAndLaid x = new FlownOnceAndLaid();
-            for (int i = 1; i <= 5; i++) {
-                Due.is("text " + i, Due.text(x, "easts 0;souths 0;rises 0;"), i);
-            }
-            Due.is("six texts, and " + tapes[k], Due.text(x, tapes[k]), -100 - places[k]);
-            Due.is("the tape is empty then", x.count(4), 0);
-            Due.is("no text more", x.count(3), 6);
-            Due.is("a seventh", Due.text(x, "easts 0;souths 0;rises 0;"), Due.FULL);
-            Due.is("the tape stays then", x.count(4), 25);
+    private static FlownOnceAndLaid withTexts(int more) {
+        FlownOnceAndLaid x = new FlownOnceAndLaid();
+        for (int i = 1; i <= more; i++) {
+            Due.is("text " + i, Due.text(x, "easts 0;souths 0;rises 0;"), i);
         }
+        return x;
+    }
+
+    private static void isFullWith(String tape) {
+        FlownOnceAndLaid x = withTexts(5);
+        Due.feed(x, tape);
+        for (int time = 1; time <= 2; time++) {
+            Due.is("six texts, and the tape " + tape, x.text(), Due.FULL);
+            Due.is("the tape stays", x.count(4), tape.length());
+            Due.is("no text more", x.count(3), 6);
+            Due.is("the rule stays", x.count(5), 0);
+        }
+        Due.is("the tape goes on", x.feed(' '), tape.length() + 1);
+        Due.is("and is no text still", x.text(), Due.FULL);
+    }
+
+    private static void noRoomForAnEmptyTape() {
+        isFullWith("");
+    }
+
+    private static void noRoomForAText() {
+        isFullWith("easts 0;souths 0;rises 0;");
+    }
+
+    private static void noRoomForATapeWithAFault() {
+        for (String tape : new String[] {" ", "(", "$", "7", "x", "easts 1 $", "easts 0;souths 0;rises 0", "easts 12345"}) {
+            isFullWith(tape);
+        }
+    }
+
+    private static void noRoomForATapeThatIsFull() {
+        FlownOnceAndLaid x = withTexts(5);
+        Due.feed(x, " ".repeat(160));
+        Due.is("six texts, and a full tape", x.text(), Due.FULL);
+        Due.is("the tape stays", x.count(4), 160);
+        Due.is("and has no room", x.feed(32), Due.FULL);
+    }
+
+    private static void whileThereIsRoomAFaultIsTold() {
+        FlownOnceAndLaid x = withTexts(4);
+        Due.is("five texts, and an empty tape", x.text(), -100);
+        Due.is("five texts, and a fault", Due.text(x, "easts 1 $"), -108);
+        Due.is("the tape is empty then", x.count(4), 0);
+        Due.is("no text more", x.count(3), 5);
+        Due.is("the sixth", Due.text(x, "easts 0;souths 0;rises 0;"), 5);
+        Due.is("the tape is empty then", x.count(4), 0);
+        Due.is("six texts, and an empty tape", x.text(), Due.FULL);
     }
 
     // ---- promise 7: tokens
