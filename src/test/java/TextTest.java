@@ -157,6 +157,8 @@ public final class TextTest {
         Due.feed(x, " ".repeat(160));
         Due.is("six texts, and a full tape", x.text(), Due.FULL);
         Due.is("the tape stays", x.count(4), 160);
+        Due.is("no text more", x.count(3), 6);
+        Due.is("the rule stays", x.count(5), 0);
         Due.is("and has no room", x.feed(32), Due.FULL);
     }
 
